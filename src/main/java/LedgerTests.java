@@ -5,7 +5,7 @@
 public final class LedgerTests {
     public static final int BAD = -1, FULL = -2;
 
-    private static final int NO_TEST = -2;
+    private static final int PASSES = -1, NO_TEST = -2;
 
     private final State state;
     private final Code code;
@@ -22,7 +22,7 @@ public final class LedgerTests {
         machine = new Machine(state, code, faces);
         scripts = new Scripts();
         runner = new Runner(state, code, faces, machine, scripts);
-        judging = new Mutants(code, runner);
+        judging = new Mutants(code);
     }
 
     public int account(int a, int coins) {
@@ -110,7 +110,29 @@ public final class LedgerTests {
     }
 
     public int judge(int contract) {
-        return code.isContract(contract) ? judging.judgeAll(contract) : BAD;
+        if (!code.isContract(contract)) {
+            return BAD;
+        }
+        int passed = 0;
+        for (int test = 0; test < Scripts.TESTS; test++) {
+            if (runner.failingLine(test, 0) == PASSES) {
+                passed |= 1 << test;
+            }
+        }
+        int count = judging.begin(contract);
+        int killed = 0;
+        for (int i = 0; i < count; i++) {
+            judging.putIn(contract, i);
+            int killer = Mutants.NOT_KILLED;
+            for (int test = 0; test < Scripts.TESTS && killer == Mutants.NOT_KILLED; test++) {
+                if ((passed >> test & 1) == 1 && runner.failingLine(test, 0) != PASSES) {
+                    killer = test;
+                    killed++;
+                }
+            }
+            judging.takeOut(contract, i, killer);
+        }
+        return killed;
     }
 
     public int killer(int contract, int i) {
@@ -122,21 +144,36 @@ public final class LedgerTests {
             return NO_TEST;
         }
         int failing = runner.failingLine(test, 0);
-        if (failing < 0) {
-            return -1;
+        if (failing == PASSES) {
+            return PASSES;
         }
-        return scripts.dropLines(test, runner.needlessLines(test, failing));
+        int size = scripts.size(test);
+        int dropped = 0;
+        boolean went = true;
+        // Each round but the last one drops a LINE.
+        for (int round = 0; went && round <= size; round++) {
+            went = false;
+            for (int i = 0; i < size; i++) {
+                int fewer = dropped | 1 << i;
+                if (fewer != dropped && runner.failingLine(test, fewer) == failing) {
+                    dropped = fewer;
+                    went = true;
+                }
+            }
+        }
+        return scripts.dropLines(test, dropped);
     }
 
     public int lineOf(int test, int i, int what) {
-        if (!Scripts.isTest(test) || !scripts.hasLine(test, i)) {
+        int slot = scripts.slotOf(test, i);
+        if (slot < 0) {
             return 0;
         }
         switch (what) {
-            case 0: return scripts.word(test, i);
-            case 1: return scripts.a(test, i);
-            case 2: return scripts.b(test, i);
-            case 3: return scripts.c(test, i);
+            case 0: return scripts.word(slot);
+            case 1: return scripts.a(slot);
+            case 2: return scripts.b(slot);
+            case 3: return scripts.c(slot);
             default: return 0;
         }
     }
@@ -173,9 +210,9 @@ public final class LedgerTests {
     private static final class State {
         static final int ACCOUNTS = 12, FIRST_OF_CONTRACTS = 8, CELLS = 4;
         static final int MOST_COINS = 1000000000, MOST_AGE = 1000, MOST_EVENTS = 40;
-        static final int CELL_PLACE = ACCOUNTS, HEIGHT_PLACE = CELL_PLACE + 16;
-        static final int COUNT_PLACE = HEIGHT_PLACE + 1, EVENT_PLACE = COUNT_PLACE + 1;
-        static final int SIZE = EVENT_PLACE + MOST_EVENTS;
+        static final int ALL_CELLS = Code.CONTRACTS * CELLS, CELL_PLACE = ACCOUNTS;
+        static final int HEIGHT_PLACE = CELL_PLACE + ALL_CELLS, COUNT_PLACE = HEIGHT_PLACE + 1;
+        static final int EVENT_PLACE = COUNT_PLACE + 1, SIZE = EVENT_PLACE + MOST_EVENTS;
 
         private final int[] row = new int[SIZE];
 
@@ -188,18 +225,18 @@ public final class LedgerTests {
         }
 
         int coinsOf(int account) {
-            return isAccount(account) ? row[account] : 0;
+            return account >= 0 && account < ACCOUNTS ? row[account] : 0;
         }
 
         boolean putCoins(int account, int coins) {
-            if (!isAccount(account) || coins < 0 || coins > MOST_COINS) {
+            if (account < 0 || account >= ACCOUNTS || coins < 0 || coins > MOST_COINS) {
                 return false;
             }
             row[account] = coins;
             return true;
         }
 
-        /** A long, because twelve full ACCOUNTS have more than an int can hold. */
+        /** A long, because three full ACCOUNTS have more than an int can hold. */
         long allCoins() {
             long sum = 0;
             for (int a = 0; a < ACCOUNTS; a++) {
@@ -210,28 +247,33 @@ public final class LedgerTests {
 
         /** Answers the number of the THROW, 0 if the coins went. */
         int pay(int from, int to, int n) {
-            if (n < 0 || n > coinsOf(from)) {
+            if (from < 0 || from >= ACCOUNTS || to < 0 || to >= ACCOUNTS) {
+                return Machine.TOO_FEW_COINS;
+            }
+            if (n < 0 || n > row[from]) {
                 return Machine.TOO_FEW_COINS;
             }
             if (from == to) {
                 return 0;
             }
-            return putCoins(to, coinsOf(to) + n) && putCoins(from, coinsOf(from) - n)
-                ? 0 : Machine.TOO_MANY_COINS;
+            if (n > MOST_COINS - row[to]) {
+                return Machine.TOO_MANY_COINS;
+            }
+            row[from] -= n;
+            row[to] += n;
+            return 0;
         }
 
         int cellOf(int contract, int i) {
-            return Code.isNumber(contract) && isCell(i) ? row[cellPlace(contract, i)] : 0;
+            int cell = contract * CELLS + i;
+            return cell >= 0 && cell < ALL_CELLS ? row[CELL_PLACE + cell] : 0;
         }
 
         void putCell(int contract, int i, int value) {
-            if (Code.isNumber(contract) && isCell(i)) {
-                row[cellPlace(contract, i)] = value;
+            int cell = contract * CELLS + i;
+            if (cell >= 0 && cell < ALL_CELLS) {
+                row[CELL_PLACE + cell] = value;
             }
-        }
-
-        private static int cellPlace(int contract, int i) {
-            return CELL_PLACE + contract * CELLS + i;
         }
 
         int height() {
@@ -251,62 +293,43 @@ public final class LedgerTests {
         }
 
         int eventAt(int i) {
-            return i >= 0 && i < eventCount() && i < MOST_EVENTS ? row[EVENT_PLACE + i] : 0;
+            boolean there = i >= 0 && i < MOST_EVENTS && i < row[COUNT_PLACE];
+            return there ? row[EVENT_PLACE + i] : 0;
         }
 
         void addEvent(int value) {
-            int count = eventCount();
+            int count = row[COUNT_PLACE];
             if (count >= 0 && count < MOST_EVENTS) {
                 row[EVENT_PLACE + count] = value;
                 row[COUNT_PLACE] = count + 1;
             }
         }
 
-        boolean copyTo(int[] rows, int from) {
-            if (!fitsIn(rows, from)) {
+        /** Keeps a copy in one of the rooms that the row 'copies' has; false if there is none such. */
+        boolean keepIn(int[] copies, int room) {
+            if (copies == null || room < 0 || room >= copies.length / SIZE) {
                 return false;
             }
-            System.arraycopy(row, 0, rows, from, SIZE);
+            System.arraycopy(row, 0, copies, room * SIZE, SIZE);
             return true;
         }
 
-        boolean copyFrom(int[] rows, int from) {
-            if (!fitsIn(rows, from)) {
+        boolean bringFrom(int[] copies, int room) {
+            if (copies == null || room < 0 || room >= copies.length / SIZE) {
                 return false;
             }
-            System.arraycopy(rows, from, row, 0, SIZE);
+            System.arraycopy(copies, room * SIZE, row, 0, SIZE);
             return true;
-        }
-
-        private static boolean fitsIn(int[] rows, int from) {
-            return rows != null && from >= 0 && from <= rows.length - SIZE;
-        }
-    }
-
-    /** Rooms for copies of THE STATE, made once and used again. */
-    private static final class Copies {
-        private final int[] rows;
-
-        Copies(int rooms) {
-            rows = new int[Math.max(rooms, 0) * State.SIZE];
-        }
-
-        /** Answers false, and keeps nothing, where there is no such room. */
-        boolean keep(State state, int room) {
-            return state.copyTo(rows, room * State.SIZE);
-        }
-
-        boolean bringBack(State state, int room) {
-            return state.copyFrom(rows, room * State.SIZE);
         }
     }
 
     /**
-     * The CONTRACTS' MEMBERS and STEPS. A place is the number of a MEMBER among all MEMBERS of all
-     * CONTRACTS.
+     * The CONTRACTS' MEMBERS and STEPS. A place is the number of a MEMBER among those of all
+     * CONTRACTS, a slot that of a STEP among those of all MEMBERS.
      */
     private static final class Code {
-        static final int CONTRACTS = 4, MEMBERS = 3, STEPS = 8, PLACES = CONTRACTS * MEMBERS;
+        static final int CONTRACTS = 4, MEMBERS = 3, STEPS = 8;
+        static final int PLACES = CONTRACTS * MEMBERS, SLOTS = PLACES * STEPS;
         static final int SET = 0, GET = 1, ADD = 2, LESS = 3, NEED = 4, PAY = 5, EVENT = 6;
         static final int UNLESS = 7, ASK = 8, TRY = 9, AGE = 10, PART = 11;
         /** Kinds that only MUTANTS have. */
@@ -316,17 +339,9 @@ public final class LedgerTests {
         private int made = 0;
         private final int[] sizes = new int[PLACES];
         private final int[] covered = new int[PLACES];
-        private final int[] kinds = new int[PLACES * STEPS];
-        private final int[] as = new int[PLACES * STEPS];
-        private final int[] bs = new int[PLACES * STEPS];
-
-        static boolean isNumber(int contract) {
-            return contract >= 0 && contract < CONTRACTS;
-        }
-
-        static boolean isPlace(int place) {
-            return place >= 0 && place < PLACES;
-        }
+        private final int[] kinds = new int[SLOTS];
+        private final int[] as = new int[SLOTS];
+        private final int[] bs = new int[SLOTS];
 
         static boolean fits(int kind, int a) {
             switch (kind) {
@@ -358,59 +373,49 @@ public final class LedgerTests {
 
         /** Answers -1 if there is no such MEMBER. */
         int placeOf(int contract, int member) {
-            boolean there = isContract(contract) && member >= 0 && member < MEMBERS;
+            boolean there = contract >= 0 && contract < made && member >= 0 && member < MEMBERS;
             return there ? contract * MEMBERS + member : -1;
         }
 
-        static int contractOf(int place) {
-            return place / MEMBERS;
-        }
-
         int size(int place) {
-            return isPlace(place) ? sizes[place] : 0;
+            return place >= 0 && place < PLACES ? sizes[place] : 0;
         }
 
         int append(int place, int kind, int a, int b) {
-            int at = size(place);
-            if (!isPlace(place) || at >= STEPS) {
+            if (place < 0 || place >= PLACES || sizes[place] >= STEPS) {
                 return FULL;
             }
-            replace(place, at, kind, a, b);
-            sizes[place] = at + 1;
-            return at + 1;
+            replace(place * STEPS + sizes[place], kind, a, b);
+            sizes[place]++;
+            return sizes[place];
         }
 
-        void replace(int place, int at, int kind, int a, int b) {
-            if (isStep(place, at)) {
-                int slot = place * STEPS + at;
+        void replace(int slot, int kind, int a, int b) {
+            if (slot >= 0 && slot < SLOTS) {
                 kinds[slot] = kind;
                 as[slot] = a;
                 bs[slot] = b;
             }
         }
 
-        private static boolean isStep(int place, int at) {
-            return isPlace(place) && at >= 0 && at < STEPS;
+        int kind(int slot) {
+            return slot >= 0 && slot < SLOTS ? kinds[slot] : NOTHING;
         }
 
-        int kind(int place, int at) {
-            return isStep(place, at) ? kinds[place * STEPS + at] : NOTHING;
+        int a(int slot) {
+            return slot >= 0 && slot < SLOTS ? as[slot] : 0;
         }
 
-        int a(int place, int at) {
-            return isStep(place, at) ? as[place * STEPS + at] : 0;
-        }
-
-        int b(int place, int at) {
-            return isStep(place, at) ? bs[place * STEPS + at] : 0;
+        int b(int slot) {
+            return slot >= 0 && slot < SLOTS ? bs[slot] : 0;
         }
 
         int coveredBits(int place) {
-            return isPlace(place) ? covered[place] : 0;
+            return place >= 0 && place < PLACES ? covered[place] : 0;
         }
 
         void cover(int place, int bit) {
-            if (isPlace(place)) {
+            if (place >= 0 && place < PLACES) {
                 covered[place] |= 1 << bit;
             }
         }
@@ -436,13 +441,13 @@ public final class LedgerTests {
         }
 
         void bindTo(int face, int place) {
-            if (isFace(face)) {
+            if (face >= 0 && face < FACES) {
                 bound[face] = place;
             }
         }
 
         int boundTo(int face) {
-            return isFace(face) ? bound[face] : NONE;
+            return face >= 0 && face < FACES ? bound[face] : NONE;
         }
 
         int boundCount() {
@@ -455,8 +460,9 @@ public final class LedgerTests {
             return count;
         }
 
+        /** Answers false if there is no such FACE. */
         boolean putDouble(int face, int kind, int number) {
-            if (!isFace(face)) {
+            if (face < 0 || face >= FACES) {
                 return false;
             }
             doubles[face] = kind;
@@ -471,11 +477,11 @@ public final class LedgerTests {
         }
 
         int doubleOf(int face) {
-            return isFace(face) ? doubles[face] : NO_DOUBLE;
+            return face >= 0 && face < FACES ? doubles[face] : NO_DOUBLE;
         }
 
         int numberOf(int face) {
-            return isFace(face) ? numbers[face] : 0;
+            return face >= 0 && face < FACES ? numbers[face] : 0;
         }
     }
 
@@ -493,7 +499,7 @@ public final class LedgerTests {
         private final State state;
         private final Code code;
         private final Faces faces;
-        private final Copies copies = new Copies(LEVELS);
+        private final int[] copies = new int[LEVELS * State.SIZE];
         private int inAll = 0;
         private int steps = 0;
         private int thrown = 0;
@@ -544,7 +550,7 @@ public final class LedgerTests {
 
         /** open: the CALLS at work with this one; level: the copies of THE STATE in use. */
         private int oneCall(int by, int place, int argument, int coins, int open, int level) {
-            if (inAll >= MOST_IN_ALL || open > MOST_CALLS || !copies.keep(state, level)) {
+            if (inAll >= MOST_IN_ALL || open > MOST_CALLS || !state.keepIn(copies, level)) {
                 raise(SPENT);
                 return 0;
             }
@@ -552,18 +558,18 @@ public final class LedgerTests {
             raise(state.pay(by, accountOf(place), coins));
             int value = block(place, 0, code.size(place), argument, open, level + 1);
             if (threw()) {
-                copies.bringBack(state, level);
+                state.bringFrom(copies, level);
             }
             return value;
         }
 
         private static int accountOf(int place) {
-            return State.FIRST_OF_CONTRACTS + Code.contractOf(place);
+            return State.FIRST_OF_CONTRACTS + place / Code.MEMBERS;
         }
 
         /**
-         * Does the STEPS from 'from' to ahead of 'end' and answers VALUE. The block of a TRY is a
-         * block of its own, so that whatever passes over too much within it ends it alone.
+         * Does the STEPS from 'from' to ahead of 'end' and answers VALUE. The STEPS of a TRY are a
+         * block of their own, so that whatever passes over too much within it ends it alone.
          */
         private int block(int place, int from, int end, int argument, int open, int level) {
             int value = argument;
@@ -572,18 +578,17 @@ public final class LedgerTests {
                 if (at < next || threw() || !begins(place, at)) {
                     continue;
                 }
-                int kind = code.kind(place, at);
-                int a = code.a(place, at);
-                next = at + 1;
+                int slot = place * Code.STEPS + at;
+                int kind = code.kind(slot);
                 if (kind == Code.TRY) {
-                    next = Math.min(end, at + 1 + a);
+                    next = Math.min(end, at + 1 + code.a(slot));
                     value = tried(place, at + 1, next, value, open, level);
                 } else if (kind == Code.UNLESS || kind == Code.UNLESS_NOT) {
-                    next = at + 1 + (passesOver(place, at, value) ? a : 0);
+                    next = at + 1 + passedOver(place, at, value);
                 } else if (kind == Code.ASK) {
-                    value = asked(a, accountOf(place), value, open, level);
+                    value = asked(code.a(slot), accountOf(place), value, open, level);
                 } else {
-                    value = plainStep(place, at, value);
+                    value = plainStep(place, slot, value);
                 }
             }
             return value;
@@ -600,15 +605,17 @@ public final class LedgerTests {
             return true;
         }
 
-        private boolean passesOver(int place, int at, int value) {
-            boolean below = value < code.b(place, at);
-            boolean passes = code.kind(place, at) == Code.UNLESS_NOT ? !below : below;
+        /** How many STEPS an UNLESS passes over. */
+        private int passedOver(int place, int at, int value) {
+            int slot = place * Code.STEPS + at;
+            boolean below = value < code.b(slot);
+            boolean passes = code.kind(slot) == Code.UNLESS_NOT ? !below : below;
             code.cover(place, at + (passes ? Code.PASSED_BIT : Code.NOT_PASSED_BIT));
-            return passes;
+            return passes ? code.a(slot) : 0;
         }
 
         private int tried(int place, int from, int end, int value, int open, int level) {
-            if (!copies.keep(state, level)) {
+            if (!state.keepIn(copies, level)) {
                 raise(SPENT);
                 return value;
             }
@@ -618,7 +625,7 @@ public final class LedgerTests {
             }
             int held = thrown;
             raise(0);
-            copies.bringBack(state, level);
+            state.bringFrom(copies, level);
             return held;
         }
 
@@ -643,11 +650,11 @@ public final class LedgerTests {
             return answer;
         }
 
-        private int plainStep(int place, int at, int value) {
-            int contract = Code.contractOf(place);
-            int a = code.a(place, at);
-            int b = code.b(place, at);
-            switch (code.kind(place, at)) {
+        private int plainStep(int place, int slot, int value) {
+            int contract = place / Code.MEMBERS;
+            int a = code.a(slot);
+            int b = code.b(slot);
+            switch (code.kind(slot)) {
                 case Code.SET:
                     state.putCell(contract, a, value);
                     return value;
@@ -669,24 +676,21 @@ public final class LedgerTests {
                 case Code.AGE:
                     return state.height();
                 case Code.PART:
-                    return part(value, state.cellOf(contract, a));
+                    int divisor = state.cellOf(contract, a);
+                    if (divisor == 0) {
+                        raise(BY_ZERO);
+                        return value;
+                    }
+                    return value / divisor;
                 default:
                     return value;
             }
         }
-
-        private int part(int value, int divisor) {
-            if (divisor == 0) {
-                raise(BY_ZERO);
-                return value;
-            }
-            return value / divisor;
-        }
     }
 
-    /** The LINES of the TESTS. */
+    /** The LINES of the TESTS. A slot is the number of a LINE among those of all TESTS. */
     private static final class Scripts {
-        static final int TESTS = 6, LINES = 16;
+        static final int TESTS = 6, LINES = 16, SLOTS = TESTS * LINES;
         static final int BY = 0, CALL = 1, GIVES = 2, THROWS = 3, STEPS = 4, COINS = 5, CELL = 6;
         static final int EVENT = 7, SUM = 8, TIME = 9, FORK = 10, BACK = 11, FACE = 12, FAILS = 13;
         /** The letters of the words above, in their order. */
@@ -697,10 +701,10 @@ public final class LedgerTests {
         };
 
         private final int[] sizes = new int[TESTS];
-        private final int[] words = new int[TESTS * LINES];
-        private final int[] as = new int[TESTS * LINES];
-        private final int[] bs = new int[TESTS * LINES];
-        private final int[] cs = new int[TESTS * LINES];
+        private final int[] words = new int[SLOTS];
+        private final int[] as = new int[SLOTS];
+        private final int[] bs = new int[SLOTS];
+        private final int[] cs = new int[SLOTS];
 
         static boolean isTest(int test) {
             return test >= 0 && test < TESTS;
@@ -717,32 +721,34 @@ public final class LedgerTests {
         }
 
         int size(int test) {
-            return isTest(test) ? sizes[test] : 0;
+            return test >= 0 && test < TESTS ? sizes[test] : 0;
         }
 
-        boolean hasLine(int test, int i) {
-            return i >= 0 && i < LINES && i < size(test);
+        /** Answers -1 if there is no such LINE. */
+        int slotOf(int test, int i) {
+            boolean there = test >= 0 && test < TESTS && i >= 0 && i < LINES && i < sizes[test];
+            return there ? test * LINES + i : -1;
         }
 
         int append(int test, int word, int a, int b, int c) {
-            int i = size(test);
-            if (!isTest(test) || i >= LINES) {
+            if (test < 0 || test >= TESTS || sizes[test] < 0 || sizes[test] >= LINES) {
                 return FULL;
             }
-            int slot = test * LINES + i;
+            int slot = test * LINES + sizes[test];
             words[slot] = word;
             as[slot] = a;
             bs[slot] = b;
             cs[slot] = c;
-            sizes[test] = i + 1;
-            return i + 1;
+            sizes[test]++;
+            return sizes[test];
         }
 
         int empty(int test) {
-            int had = size(test);
-            if (isTest(test)) {
-                sizes[test] = 0;
+            if (test < 0 || test >= TESTS) {
+                return 0;
             }
+            int had = sizes[test];
+            sizes[test] = 0;
             return had;
         }
 
@@ -750,33 +756,29 @@ public final class LedgerTests {
         int dropLines(int test, int dropped) {
             int had = empty(test);
             for (int i = 0; i < had; i++) {
-                int slot = test * LINES + i;
-                if ((dropped >> i & 1) == 0 && isSlot(slot)) {
-                    append(test, words[slot], as[slot], bs[slot], cs[slot]);
+                if ((dropped >> i & 1) == 0) {
+                    int slot = test * LINES + i;
+                    append(test, word(slot), a(slot), b(slot), c(slot));
                 }
             }
             return size(test);
         }
 
-        private static boolean isSlot(int slot) {
-            return slot >= 0 && slot < TESTS * LINES;
+        /** Answers -1, which no WORD has, if there is no such slot. */
+        int word(int slot) {
+            return slot >= 0 && slot < SLOTS ? words[slot] : -1;
         }
 
-        /** Answers -1, which no WORD has, if there is no such LINE. */
-        int word(int test, int i) {
-            return hasLine(test, i) ? words[test * LINES + i] : -1;
+        int a(int slot) {
+            return slot >= 0 && slot < SLOTS ? as[slot] : 0;
         }
 
-        int a(int test, int i) {
-            return hasLine(test, i) ? as[test * LINES + i] : 0;
+        int b(int slot) {
+            return slot >= 0 && slot < SLOTS ? bs[slot] : 0;
         }
 
-        int b(int test, int i) {
-            return hasLine(test, i) ? bs[test * LINES + i] : 0;
-        }
-
-        int c(int test, int i) {
-            return hasLine(test, i) ? cs[test * LINES + i] : 0;
+        int c(int slot) {
+            return slot >= 0 && slot < SLOTS ? cs[slot] : 0;
         }
     }
 
@@ -791,7 +793,7 @@ public final class LedgerTests {
         private final Faces faces;
         private final Machine machine;
         private final Scripts scripts;
-        private final Copies copies = new Copies(FORKS + 1);
+        private final int[] copies = new int[(FORKS + 1) * State.SIZE];
         private int by = 0;
         private int byCoins = 0;
         private int forked = 0;
@@ -808,24 +810,28 @@ public final class LedgerTests {
 
         /**
          * A RUN of a TEST without the LINES whose bits are set in leftOut. Answers the LINE at
-         * which it FAILS, numbered as in the whole TEST, or -1.
+         * which it FAILS, numbered as in the whole TEST, or PASSES.
          */
         int failingLine(int test, int leftOut) {
             begin();
             int size = scripts.size(test);
-            int failing = -1;
-            for (int i = 0; i < size && failing < 0; i++) {
-                if ((leftOut >> i & 1) == 0 && !asTold(test, i, leftOut)) {
-                    failing = i;
+            int failing = PASSES;
+            for (int i = 0; i < size && failing == PASSES; i++) {
+                if ((leftOut >> i & 1) == 1) {
+                    continue;
                 }
+                int slot = scripts.slotOf(test, i);
+                boolean isCall = scripts.word(slot) == Scripts.CALL;
+                boolean told = isCall ? doesCall(test, i, leftOut) : asTold(slot);
+                failing = told ? PASSES : i;
             }
             faces.dropDoubles();
-            copies.bringBack(state, START_ROOM);
+            state.bringFrom(copies, START_ROOM);
             return failing;
         }
 
         private void begin() {
-            copies.keep(state, START_ROOM);
+            state.keepIn(copies, START_ROOM);
             by = 0;
             byCoins = 0;
             forked = 0;
@@ -833,44 +839,38 @@ public final class LedgerTests {
             called = false;
         }
 
-        /** The LINES, as bits, that a TEST can lose and still FAIL at the LINE 'failing'. */
-        int needlessLines(int test, int failing) {
-            int dropped = 0;
-            // Each round but the last one drops a LINE.
-            for (int round = 0; round <= Scripts.LINES; round++) {
-                int before = dropped;
-                dropped = withoutEach(test, failing, dropped);
-                if (dropped == before) {
-                    break;
-                }
+        private boolean doesCall(int test, int i, int leftOut) {
+            int slot = scripts.slotOf(test, i);
+            int place = code.placeOf(scripts.a(slot), scripts.b(slot));
+            if (place < 0) {
+                return false;
             }
-            return dropped;
+            machine.callFromOutside(by, place, scripts.c(slot), byCoins);
+            called = true;
+            return !machine.threw() || nextIsThrows(test, i, leftOut);
         }
 
-        private int withoutEach(int test, int failing, int leftOut) {
-            int dropped = leftOut;
+        private boolean nextIsThrows(int test, int i, int leftOut) {
             int size = scripts.size(test);
-            for (int i = 0; i < size; i++) {
-                int fewer = dropped | 1 << i;
-                if (fewer != dropped && failingLine(test, fewer) == failing) {
-                    dropped = fewer;
+            for (int next = i + 1; next < size; next++) {
+                if ((leftOut >> next & 1) == 0) {
+                    return scripts.word(scripts.slotOf(test, next)) == Scripts.THROWS;
                 }
             }
-            return dropped;
+            return false;
         }
 
-        private boolean asTold(int test, int i, int leftOut) {
-            int a = scripts.a(test, i);
-            int b = scripts.b(test, i);
-            int c = scripts.c(test, i);
-            switch (scripts.word(test, i)) {
+        /** Every LINE but a call. */
+        private boolean asTold(int slot) {
+            int a = scripts.a(slot);
+            int b = scripts.b(slot);
+            switch (scripts.word(slot)) {
                 case Scripts.BY: return callsAreBy(a, b);
-                case Scripts.CALL: return doesCall(a, b, c, nextIsThrows(test, i, leftOut));
                 case Scripts.GIVES: return called && !machine.threw() && machine.answered() == a;
                 case Scripts.THROWS: return called && threwThat(a, b);
                 case Scripts.STEPS: return called && machine.stepsDone() <= a;
                 case Scripts.COINS: return State.isAccount(a) && state.coinsOf(a) == b;
-                case Scripts.CELL: return cellIs(a, b, c);
+                case Scripts.CELL: return cellIs(a, b, scripts.c(slot));
                 case Scripts.EVENT: return eventIs(a, b);
                 case Scripts.SUM: return state.allCoins() == a;
                 case Scripts.TIME: return state.age(a);
@@ -889,26 +889,6 @@ public final class LedgerTests {
             by = account;
             byCoins = coins;
             return true;
-        }
-
-        private boolean doesCall(int contract, int member, int argument, boolean mayThrow) {
-            int place = code.placeOf(contract, member);
-            if (place < 0) {
-                return false;
-            }
-            machine.callFromOutside(by, place, argument, byCoins);
-            called = true;
-            return mayThrow || !machine.threw();
-        }
-
-        private boolean nextIsThrows(int test, int i, int leftOut) {
-            int size = scripts.size(test);
-            for (int next = i + 1; next < size; next++) {
-                if ((leftOut >> next & 1) == 0) {
-                    return scripts.word(test, next) == Scripts.THROWS;
-                }
-            }
-            return false;
         }
 
         private boolean threwThat(int number, int cause) {
@@ -934,14 +914,11 @@ public final class LedgerTests {
                 return false;
             }
             forked |= 1 << fork;
-            return copies.keep(state, fork);
+            return state.keepIn(copies, fork);
         }
 
         private boolean goesBack(int fork) {
-            if (!isFork(fork) || (forked >> fork & 1) == 0) {
-                return false;
-            }
-            return copies.bringBack(state, fork);
+            return isFork(fork) && (forked >> fork & 1) == 1 && state.bringFrom(copies, fork);
         }
 
         private boolean faceFails(int face, int number) {
@@ -955,17 +932,20 @@ public final class LedgerTests {
      * is the second one of its STEP.
      */
     private static final class Mutants {
-        static final int MOST = Code.MEMBERS * Code.STEPS * 2;
         static final int NOT_KILLED = -1, NO_MUTANT = -2;
+        static final int MOST = Code.MEMBERS * Code.STEPS * 2;
 
         private final Code code;
-        private final Runner runner;
         private final int[] judged = new int[Code.CONTRACTS];
         private final int[] killers = new int[Code.CONTRACTS * MOST];
+        /** The STEP in whose place a MUTANT is. */
+        private int slot = -1;
+        private int kind = 0;
+        private int a = 0;
+        private int b = 0;
 
-        Mutants(Code code, Runner runner) {
+        Mutants(Code code) {
             this.code = code;
-            this.runner = runner;
         }
 
         static int memberOf(int found) {
@@ -987,16 +967,11 @@ public final class LedgerTests {
         int howMany(int contract) {
             int count = 0;
             for (int member = 0; member < Code.MEMBERS; member++) {
-                count += ofMember(code.placeOf(contract, member));
-            }
-            return count;
-        }
-
-        private int ofMember(int place) {
-            int count = 0;
-            int size = code.size(place);
-            for (int at = 0; at < size; at++) {
-                count += perStep(code.kind(place, at));
+                int place = code.placeOf(contract, member);
+                int size = code.size(place);
+                for (int at = 0; at < size; at++) {
+                    count += perStep(code.kind(place * Code.STEPS + at));
+                }
             }
             return count;
         }
@@ -1011,7 +986,7 @@ public final class LedgerTests {
                 int place = code.placeOf(contract, member);
                 int size = code.size(place);
                 for (int at = 0; at < size; at++) {
-                    int here = perStep(code.kind(place, at));
+                    int here = perStep(code.kind(place * Code.STEPS + at));
                     if (left < here) {
                         return (member * Code.STEPS + at) * 2 + left;
                     }
@@ -1021,91 +996,72 @@ public final class LedgerTests {
             return -1;
         }
 
-        int judgeAll(int contract) {
+        /** Answers how many MUTANTS are to be judged. */
+        int begin(int contract) {
             int count = Math.min(howMany(contract), MOST);
-            int passed = passedTests();
-            int killed = 0;
-            for (int i = 0; i < count; i++) {
-                int killer = killerAmong(passed, contract, i);
-                if (killer != NOT_KILLED) {
-                    killed++;
-                }
-                note(contract, i, killer);
-            }
-            if (Code.isNumber(contract)) {
+            if (contract >= 0 && contract < Code.CONTRACTS) {
                 judged[contract] = count;
             }
-            return killed;
+            return count;
         }
 
-        private void note(int contract, int i, int killer) {
-            if (Code.isNumber(contract) && i >= 0 && i < MOST) {
+        void putIn(int contract, int i) {
+            int found = find(contract, i);
+            slot = found < 0 ? -1 : contract * Code.MEMBERS * Code.STEPS + found / 2;
+            kind = code.kind(slot);
+            a = code.a(slot);
+            b = code.b(slot);
+            if (isSecond(found)) {
+                putSecond();
+            } else {
+                putFirst();
+            }
+        }
+
+        private void putFirst() {
+            switch (kind) {
+                case Code.ADD: case Code.NEED:
+                    code.replace(slot, kind, a, b + 1);
+                    break;
+                case Code.UNLESS:
+                    code.replace(slot, kind, a + 1, b);
+                    break;
+                case Code.PAY:
+                    code.replace(slot, kind, (a + 1) % State.ACCOUNTS, b);
+                    break;
+                default:
+                    code.replace(slot, Code.NOTHING, a, b);
+                    break;
+            }
+        }
+
+        private void putSecond() {
+            switch (kind) {
+                case Code.ADD:
+                    code.replace(slot, kind, a, -b);
+                    break;
+                case Code.UNLESS:
+                    code.replace(slot, Code.UNLESS_NOT, a, b);
+                    break;
+                default:
+                    // A NEED that never THROWS does nothing.
+                    code.replace(slot, Code.NOTHING, a, b);
+                    break;
+            }
+        }
+
+        /** Puts the STEP back and notes who killed the MUTANT. */
+        void takeOut(int contract, int i, int killer) {
+            code.replace(slot, kind, a, b);
+            if (contract >= 0 && contract < Code.CONTRACTS && i >= 0 && i < MOST) {
                 killers[contract * MOST + i] = killer;
             }
         }
 
         int killerOf(int contract, int i) {
-            boolean there = Code.isNumber(contract) && i >= 0 && i < MOST && i < judged[contract];
+            boolean there = contract >= 0 && contract < Code.CONTRACTS
+                && i >= 0 && i < MOST && i < judged[contract];
             return there ? killers[contract * MOST + i] : NO_MUTANT;
-        }
-
-        private int passedTests() {
-            int passed = 0;
-            for (int test = 0; test < Scripts.TESTS; test++) {
-                if (runner.failingLine(test, 0) < 0) {
-                    passed |= 1 << test;
-                }
-            }
-            return passed;
-        }
-
-        private int killerAmong(int tests, int contract, int i) {
-            int found = find(contract, i);
-            if (found < 0) {
-                return NOT_KILLED;
-            }
-            int place = code.placeOf(contract, memberOf(found));
-            int at = stepOf(found);
-            int kind = code.kind(place, at);
-            int a = code.a(place, at);
-            int b = code.b(place, at);
-            alter(place, at, isSecond(found));
-            int killer = firstFailing(tests);
-            code.replace(place, at, kind, a, b);
-            return killer;
-        }
-
-        private int firstFailing(int tests) {
-            for (int test = 0; test < Scripts.TESTS; test++) {
-                if ((tests >> test & 1) == 1 && runner.failingLine(test, 0) >= 0) {
-                    return test;
-                }
-            }
-            return NOT_KILLED;
-        }
-
-        private void alter(int place, int at, boolean second) {
-            int a = code.a(place, at);
-            int b = code.b(place, at);
-            switch (code.kind(place, at)) {
-                case Code.ADD:
-                    code.replace(place, at, Code.ADD, a, second ? -b : b + 1);
-                    break;
-                case Code.NEED:
-                    // A NEED that never THROWS does nothing.
-                    code.replace(place, at, second ? Code.NOTHING : Code.NEED, a, b + 1);
-                    break;
-                case Code.UNLESS:
-                    code.replace(place, at, second ? Code.UNLESS_NOT : Code.UNLESS,
-                        second ? a : a + 1, b);
-                    break;
-                case Code.PAY:
-                    code.replace(place, at, Code.PAY, (a + 1) % State.ACCOUNTS, b);
-                    break;
-                default:
-                    code.replace(place, at, Code.NOTHING, a, b);
-                    break;
-            }
         }
     }
 }

@@ -11,6 +11,7 @@ public final class LedgerPromisesTest {
         newObject();
         accounts();
         contracts();
+        cellsAndCoinsAreApart();
         stepBounds();
         binds();
         time();
@@ -102,6 +103,29 @@ public final class LedgerPromisesTest {
         Due.is("cell 4", x.cell(2, 7), 0);
         Due.is("cell -1", x.cell(3, -1), 0);
         Due.is("cell of none", x.cell(4, -1), 0);
+    }
+
+    private static void cellsAndCoinsAreApart() {
+        LedgerTests x = withContracts(4);
+        for (int i = 0; i < 16; i++) {
+            int member = i % 4 / 2;
+            Due.steps(x, i / 4, member, ADD, 0, 1, SET, i % 4, 0, EVENT, 0, 0);
+            x.account(i % 12, 500 + i % 12);
+        }
+        x.time(9);
+        for (int i = 0; i < 8; i++) {
+            x.call(0, i / 2, i % 2, 100 * i, 0);
+        }
+        for (int i = 0; i < 16; i++) {
+            int due = 100 * (i / 2) + 1 + i % 2;
+            Due.is("cell " + i, x.cell(i / 4, i % 4), due);
+            Due.is("event " + i, x.event(i), due);
+        }
+        for (int a = 0; a < 12; a++) {
+            Due.is("coins " + a, x.coins(a), 500 + a);
+        }
+        Due.is("height", x.count(0), 9);
+        Due.is("events", x.count(1), 16);
     }
 
     private static void stepBounds() {
@@ -304,6 +328,12 @@ public final class LedgerPromisesTest {
         answers("UNLESS within TRY ends with it", 1, 6, TRY, 2, 0, UNLESS, 7, 5, ADD, 0, 9, ADD, 0, 5);
         answers("a passed TRY holds nothing, the next one does", 1, 12,
             UNLESS, 1, 5, TRY, 7, 0, TRY, 1, 0, NEED, 2, 5);
+        LedgerTests y = withContracts(1);
+        Due.steps(y, 0, 0, TRY, 5, 0, SET, 0, 0, TRY, 1, 0, SET, 1, 0, EVENT, 0, 0, NEED, 3, 50);
+        Due.is("the outer TRY goes back", y.call(0, 0, 0, 7, 0), 1);
+        Due.is("ahead of the inner TRY", y.cell(0, 0), 0);
+        Due.is("in the inner TRY", y.cell(0, 1), 0);
+        Due.is("behind the inner TRY", y.count(1), 0);
         LedgerTests x = withContracts(1);
         Due.steps(x, 0, 0, TRY, 1, 0, ADD, 0, 1, NEED, 4, 50);
         Due.is("a THROW behind a TRY", x.call(0, 0, 0, 1, 0), -24);

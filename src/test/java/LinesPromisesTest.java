@@ -27,6 +27,7 @@ public final class LinesPromisesTest {
         timeLine();
         forks();
         faces();
+        eachFace();
         facesTooDeep();
         failsLines();
         stateAsAhead();
@@ -202,6 +203,7 @@ public final class LinesPromisesTest {
         runs("account 11", x, -1, of("by", 11, 0));
         runs("account 12", x, 0, of("by", 12, 0));
         runs("account -1", x, 0, of("by", -1, 0));
+        runs("by at last", x, -1, of("by", 4, 7));
         runs("anew in each RUN", x, -1, of("call", 1, 1, 7), of("coins", 9, 0));
     }
 
@@ -213,6 +215,10 @@ public final class LinesPromisesTest {
         runs("account -1", x, 0, of("coins", -1, -1));
         runs("sum", x, -1, of("sum", 140), of("by", 0, 50), of("call", 0, 1, 20), of("sum", 140), of("coins", 3, 20));
         runs("sum otherwise", x, 0, of("sum", 141));
+        Due.steps(x, 1, 1, SET, 0, 0);
+        Due.steps(x, 0, 0, SET, 0, 0);
+        x.call(0, 1, 1, 33, 0);
+        x.call(0, 0, 0, 33, 0);
         x.account(11, 1);
         runs("all ACCOUNTS", x, -1, of("sum", 141));
         for (int a = 0; a < 5; a++) {
@@ -290,6 +296,18 @@ public final class LinesPromisesTest {
         int had = x.count(3);
         runs("no CALL, no STEP", x, -1, of("face", 2, 70), of("call", 0, 2, 0));
         Due.is("no CALL, no STEP", x.count(3), had + 3);
+    }
+
+    private static void eachFace() {
+        for (int face = 0; face < 4; face++) {
+            LedgerTests x = new LedgerTests();
+            x.contract();
+            Due.steps(x, 0, 0, ASK, face, 0);
+            runs("face " + face, x, -1, of("face", face, 70), of("call", 0, 0, 0), of("gives", 70));
+            runs("in that RUN alone", x, -1, of("call", 0, 0, 0), of("throws", 5, 3));
+            runs("fails " + face, x, -1, of("fails", face, 4), of("call", 0, 0, 0), of("throws", 5, 24));
+            runs("in that RUN alone", x, -1, of("call", 0, 0, 0), of("throws", 5, 3));
+        }
     }
 
     private static void facesTooDeep() {

@@ -10,6 +10,7 @@ public final class MutantsPromisesTest {
         mutantsOfAll();
         mutantsNone();
         adds();
+        addsOneMore();
         needs();
         unless();
         unlessLonger();
@@ -116,6 +117,24 @@ public final class MutantsPromisesTest {
         Due.is("-b", z.killer(0, 1), 0);
         Due.is("NEED b + 1", z.killer(0, 2), 0);
         Due.is("NEED never", z.killer(0, 3), -1);
+    }
+
+    private static void addsOneMore() {
+        // By 2 and cut, 10 and 11 give the same, 12 and -10 do not.
+        LedgerTests x = contractOf(SET, 0, 0, ADD, 0, 8, PART, 0, 0);
+        Due.line(x, 0, "call", 0, 0, 2);
+        Due.line(x, 0, "gives", 5);
+        Due.is("judge", x.judge(0), 3);
+        Due.is("b + 1", x.killer(0, 1), -1);
+        Due.is("-b", x.killer(0, 2), 0);
+        LedgerTests y = contractOf(UNLESS, 1, 5, ADD, 0, 10, SET, 0, 0, EVENT, 0, 0);
+        Due.line(y, 0, "call", 0, 0, 4);
+        Due.line(y, 0, "event", 0, 4);
+        Due.is("judge", y.judge(0), 2);
+        Due.is("a + 1, no more", y.killer(0, 0), -1);
+        LedgerTests z = contractOf(NEED, 1, 5);
+        Due.line(z, 0, "call", 0, 0, 6);
+        Due.is("NEED b + 1, no more", z.judge(0), 0);
     }
 
     private static void needs() {
@@ -234,6 +253,9 @@ public final class MutantsPromisesTest {
         Due.is("nor PASSED by a MUTANT", x.killer(0, 0), 5);
         x.clear(5);
         Due.is("judge", x.judge(0), 0);
+        Due.is("killer", x.killer(0, 0), -1);
+        Due.line(x, 4, "sum", 1);
+        Due.is("FAILED at the first LINE", x.judge(0), 0);
         Due.is("killer", x.killer(0, 0), -1);
     }
 
