@@ -19,12 +19,14 @@ public final class LedgerPromisesTest {
         paysAtTheCall();
         plainSteps();
         paySteps();
+        paysEachAccount();
         needs();
         unless();
         tries();
         tryWithin();
         asks();
         asksTooDeep();
+        triesInEachCall();
         hundredSteps();
         twentyThousand();
         twentyThousandByAsk();
@@ -249,6 +251,17 @@ public final class LedgerPromisesTest {
         Due.is("AGE", x.told(0), 12);
     }
 
+    private static void paysEachAccount() {
+        for (int a = 0; a < 12; a++) {
+            LedgerTests x = withContracts(4);
+            x.account(9, 50);
+            Due.steps(x, 1, 0, PAY, a, 0);
+            Due.is("PAY to " + a, x.call(0, 1, 0, 20, 0), 1);
+            Due.is("coins " + a, x.coins(a), a == 9 ? 50 : 20);
+            Due.is("coins 9", x.coins(9), a == 9 ? 50 : 30);
+        }
+    }
+
     private static void paySteps() {
         LedgerTests x = withContracts(2);
         x.account(8, 20);
@@ -398,6 +411,27 @@ public final class LedgerPromisesTest {
         y.bind(2, 3, 1);
         Due.is("none ahead of too deep", y.call(0, 0, 0, 5, 0), -15);
         Due.is("none ahead of too deep", y.told(2), 3);
+    }
+
+    /** As many TRIES and CALLS as can be at work at once. */
+    private static void triesInEachCall() {
+        LedgerTests x = withContracts(2);
+        Due.steps(x, 0, 0, TRY, 7, 0, TRY, 7, 0, TRY, 7, 0, TRY, 7, 0, TRY, 7, 0, TRY, 7, 0, TRY, 7, 0, ASK, 0, 0);
+        x.bind(0, 0, 0);
+        Due.is("too deep is held at once", x.call(0, 0, 0, 9, 0), 1);
+        Due.is("held as 5", x.told(0), 5);
+        Due.is("steps", x.told(3), 32);
+        Due.steps(x, 1, 0, SET, 0, 0, TRY, 6, 0, SET, 1, 0, TRY, 4, 0, SET, 2, 0, TRY, 2, 0, SET, 3, 0, ASK, 1, 0);
+        x.bind(1, 1, 1);
+        Due.steps(x, 1, 1, ADD, 0, 1, SET, 0, 0, ASK, 2, 0, NEED, 0, 100);
+        x.bind(2, 1, 2);
+        Due.steps(x, 1, 2, ADD, 0, 1, SET, 1, 0, TRY, 2, 0, SET, 2, 0, NEED, 0, 100, SET, 3, 0);
+        Due.is("held in between", x.call(0, 1, 0, 9, 0), 1);
+        Due.is("held as 5", x.told(0), 5);
+        for (int i = 0; i < 3; i++) {
+            Due.is("ahead of the last TRY " + i, x.cell(1, i), 9);
+        }
+        Due.is("in the last TRY", x.cell(1, 3), 0);
     }
 
     private static void hundredSteps() {

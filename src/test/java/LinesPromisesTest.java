@@ -119,6 +119,7 @@ public final class LinesPromisesTest {
 
     private static void clears() {
         LedgerTests x = new LedgerTests();
+        Due.line(x, 0, "sum", 6, 7, 8);
         Due.line(x, 3, "sum", 1);
         Due.line(x, 3, "sum", 0);
         Due.line(x, 2, "sum", 0);
@@ -127,6 +128,10 @@ public final class LinesPromisesTest {
         Due.is("no line", x.lineOf(3, 0, 1), 0);
         Due.is("no line", x.count(7), 0);
         Due.is("another stays", x.count(6), 1);
+        Due.is("the first LINE of all, a", x.lineOf(0, 0, 1), 6);
+        Due.is("the first LINE of all, b", x.lineOf(0, 0, 2), 7);
+        Due.is("the first LINE of all, c", x.lineOf(0, 0, 3), 8);
+        Due.is("the first LINE of all", x.run(0), 0);
         Due.is("run", x.run(3), -1);
         Due.is("clear 6", x.clear(6), -1);
         Due.is("clear -1", x.clear(-1), -1);

@@ -425,5 +425,12 @@ public final class MutantsPromisesTest {
         // Without the cell the call is come to: the only time.
         Due.is("the failing LINE is left out for once, too", y.count(3), 2);
         Due.is("RUNS cover", y.covered(0, 0), 1);
+        LedgerTests z = contractOf(SET, 0, 0);
+        Due.line(z, 0, "call", 0, 0, 5);
+        Due.line(z, 0, "cell", 0, 0, 0);
+        Due.is("shrink", z.shrink(0), 2);
+        // At first 2; without the call 0; without the cell 2; none went, so there is no second round.
+        Due.is("no round too many", z.count(3), 4);
+        Due.is("told of the last RUN", z.told(0), 5);
     }
 }
