@@ -882,8 +882,9 @@ public final class LedgerTests {
             }
         }
 
+        /** What is no number for call() is none here, either. */
         private boolean callsAreBy(int account, int coins) {
-            if (!State.isAccount(account)) {
+            if (!State.isAccount(account) || coins < 0) {
                 return false;
             }
             by = account;

@@ -204,7 +204,11 @@ public final class LinesPromisesTest {
         runs("by", x, -1, of("by", 4, 7), of("call", 1, 1, 7), of("call", 1, 1, 7), of("coins", 4, 26), of("coins", 9, 14));
         runs("by again", x, -1, of("by", 4, 7), of("call", 1, 1, 7), of("by", 0, 0), of("call", 1, 1, 7), of("coins", 4, 33));
         runs("too many", x, -1, of("by", 4, 41), of("call", 1, 1, 7), of("throws", 1, 1));
-        runs("below 0", x, -1, of("by", 4, -1), of("call", 1, 1, 7), of("throws", 1, 1));
+        runs("more than any has", x, -1, of("by", 4, Integer.MAX_VALUE), of("call", 1, 1, 7), of("throws", 1, 1));
+        runs("coins -1", x, 0, of("by", 4, -1), of("call", 1, 1, 7), of("throws", 1, 1));
+        runs("least coins", x, 1, of("by", 4, 0), of("by", 4, Integer.MIN_VALUE));
+        runs("coins -1 by none with coins", x, 0, of("by", 3, -1));
+        runs("coins -1 by a CONTRACT", x, 2, of("by", 8, 0), of("call", 0, 0, 6), of("by", 8, -1));
         runs("account 11", x, -1, of("by", 11, 0));
         runs("account 12", x, 0, of("by", 12, 0));
         runs("account -1", x, 0, of("by", -1, 0));

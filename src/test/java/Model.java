@@ -362,7 +362,7 @@ final class Model {
             boolean asTold = true;
             switch (line.word) {
                 case "by":
-                    asTold = in(line.a, 0, 11);
+                    asTold = in(line.a, 0, 11) && line.b >= 0;
                     by = line.a;
                     with = line.b;
                     break;

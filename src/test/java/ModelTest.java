@@ -135,7 +135,7 @@ public final class ModelTest {
         int a = below(12);
         int b = below(4);
         switch (word) {
-            case "by": line(test, Due.word(word), a, below(3), 0); break;
+            case "by": line(test, Due.word(word), a, below(3) - near, 0); break;
             case "call": callLine(test, contracts); break;
             case "gives": line(test, Due.word(word), model.told(0) + near, 0, 0); break;
             case "throws": line(test, Due.word(word), model.told(1) + near, model.told(2), 0); break;
