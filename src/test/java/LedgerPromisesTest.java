@@ -36,17 +36,9 @@ public final class LedgerPromisesTest {
         Due.end();
     }
 
-    private static LedgerTests withContracts(int n) {
-        LedgerTests x = new LedgerTests();
-        for (int i = 0; i < n; i++) {
-            Due.is("contract", x.contract(), i);
-        }
-        return x;
-    }
-
     /** A CALL by ACCOUNT 0 without coins of MEMBER 0 of CONTRACT 0 that is made of these STEPS. */
     private static void answers(String what, int argument, int want, int... steps) {
-        LedgerTests x = withContracts(1);
+        LedgerTests x = Made.contracts(1);
         Due.steps(x, 0, 0, steps);
         Due.is(what, x.call(0, 0, 0, argument, 0), 1);
         Due.is(what + ", told(0)", x.told(0), want);
@@ -94,7 +86,7 @@ public final class LedgerPromisesTest {
     }
 
     private static void contracts() {
-        LedgerTests x = withContracts(4);
+        LedgerTests x = Made.contracts(4);
         Due.is("fifth contract", x.contract(), -2);
         Due.is("count 2", x.count(2), 4);
         Due.steps(x, 3, 2, SET, 3, 0);
@@ -108,7 +100,7 @@ public final class LedgerPromisesTest {
     }
 
     private static void cellsAndCoinsAreApart() {
-        LedgerTests x = withContracts(4);
+        LedgerTests x = Made.contracts(4);
         for (int i = 0; i < 16; i++) {
             int member = i % 4 / 2;
             Due.steps(x, i / 4, member, ADD, 0, 1, SET, i % 4, 0, EVENT, 0, 0);
@@ -131,13 +123,13 @@ public final class LedgerPromisesTest {
     }
 
     private static void stepBounds() {
-        LedgerTests x = withContracts(2);
+        LedgerTests x = Made.contracts(2);
         int[][] bounds = {
             {SET, 0, 3}, {GET, 0, 3}, {LESS, 0, 3}, {PART, 0, 3}, {NEED, 0, 9}, {PAY, 0, 11},
             {UNLESS, 1, 7}, {TRY, 1, 7}, {ASK, 0, 3},
         };
         for (int[] bound : bounds) {
-            LedgerTests y = withContracts(1);
+            LedgerTests y = Made.contracts(1);
             Due.is("too low, kind " + bound[0], y.step(0, 0, bound[0], bound[1] - 1, 0), -1);
             Due.is("too high, kind " + bound[0], y.step(0, 0, bound[0], bound[2] + 1, 0), -1);
             Due.is("lowest, kind " + bound[0], y.step(0, 0, bound[0], bound[1], 0), 1);
@@ -164,7 +156,7 @@ public final class LedgerPromisesTest {
     }
 
     private static void binds() {
-        LedgerTests x = withContracts(2);
+        LedgerTests x = Made.contracts(2);
         Due.is("bind", x.bind(3, 1, 2), 1);
         Due.is("bind", x.bind(0, 0, 0), 1);
         Due.is("bound", x.count(10), 2);
@@ -192,7 +184,7 @@ public final class LedgerPromisesTest {
     }
 
     private static void wrongCalls() {
-        LedgerTests x = withContracts(1);
+        LedgerTests x = Made.contracts(1);
         Due.steps(x, 0, 0, ADD, 0, 5);
         x.call(0, 0, 0, 1, 0);
         Due.is("no account", x.call(12, 0, 0, 0, 0), -1);
@@ -207,7 +199,7 @@ public final class LedgerPromisesTest {
     }
 
     private static void paysAtTheCall() {
-        LedgerTests x = withContracts(1);
+        LedgerTests x = Made.contracts(1);
         x.account(0, 10);
         Due.is("all coins", x.call(0, 0, 0, 3, 10), 1);
         Due.is("from", x.coins(0), 0);
@@ -241,7 +233,7 @@ public final class LedgerPromisesTest {
         answers("PART", 3, 4, SET, 0, 0, ADD, 0, 11, PART, 0, 0);
         answers("PART is cut", 3, -2, SET, 0, 0, ADD, 0, -11, PART, 0, 0);
         answers("PART of the least", -1, Integer.MIN_VALUE, SET, 0, 0, ADD, 0, Integer.MIN_VALUE, ADD, 0, 1, PART, 0, 0);
-        LedgerTests x = withContracts(1);
+        LedgerTests x = Made.contracts(1);
         Due.steps(x, 0, 0, EVENT, 0, 0, PART, 3, 0);
         Due.steps(x, 0, 1, AGE, 0, 0);
         Due.is("PART by 0", x.call(0, 0, 0, 7, 0), -16);
@@ -253,7 +245,7 @@ public final class LedgerPromisesTest {
 
     private static void paysEachAccount() {
         for (int a = 0; a < 12; a++) {
-            LedgerTests x = withContracts(4);
+            LedgerTests x = Made.contracts(4);
             x.account(9, 50);
             Due.steps(x, 1, 0, PAY, a, 0);
             Due.is("PAY to " + a, x.call(0, 1, 0, 20, 0), 1);
@@ -263,7 +255,7 @@ public final class LedgerPromisesTest {
     }
 
     private static void paySteps() {
-        LedgerTests x = withContracts(2);
+        LedgerTests x = Made.contracts(2);
         x.account(8, 20);
         Due.steps(x, 0, 0, PAY, 3, 0, ADD, 0, 1);
         Due.steps(x, 0, 1, PAY, 8, 0);
@@ -287,7 +279,7 @@ public final class LedgerPromisesTest {
     }
 
     private static void needs() {
-        LedgerTests x = withContracts(1);
+        LedgerTests x = Made.contracts(1);
         x.account(0, 50);
         Due.steps(x, 0, 0, SET, 1, 0, EVENT, 0, 0, NEED, 9, 5, ADD, 0, 1);
         Due.is("NEED", x.call(0, 0, 0, 5, 0), 1);
@@ -312,7 +304,7 @@ public final class LedgerPromisesTest {
     }
 
     private static void tries() {
-        LedgerTests x = withContracts(1);
+        LedgerTests x = Made.contracts(1);
         x.account(8, 9);
         Due.steps(x, 0, 0, SET, 0, 0, TRY, 4, 0, SET, 1, 0, EVENT, 0, 0, PAY, 2, 0, NEED, 3, 8, SET, 2, 0);
         Due.is("held", x.call(0, 0, 0, 7, 0), 1);
@@ -341,13 +333,13 @@ public final class LedgerPromisesTest {
         answers("UNLESS within TRY ends with it", 1, 6, TRY, 2, 0, UNLESS, 7, 5, ADD, 0, 9, ADD, 0, 5);
         answers("a passed TRY holds nothing, the next one does", 1, 12,
             UNLESS, 1, 5, TRY, 7, 0, TRY, 1, 0, NEED, 2, 5);
-        LedgerTests y = withContracts(1);
+        LedgerTests y = Made.contracts(1);
         Due.steps(y, 0, 0, TRY, 5, 0, SET, 0, 0, TRY, 1, 0, SET, 1, 0, EVENT, 0, 0, NEED, 3, 50);
         Due.is("the outer TRY goes back", y.call(0, 0, 0, 7, 0), 1);
         Due.is("ahead of the inner TRY", y.cell(0, 0), 0);
         Due.is("in the inner TRY", y.cell(0, 1), 0);
         Due.is("behind the inner TRY", y.count(1), 0);
-        LedgerTests x = withContracts(1);
+        LedgerTests x = Made.contracts(1);
         Due.steps(x, 0, 0, TRY, 1, 0, ADD, 0, 1, NEED, 4, 50);
         Due.is("a THROW behind a TRY", x.call(0, 0, 0, 1, 0), -24);
         Due.steps(x, 0, 1, TRY, 7, 0, TRY, 6, 0, TRY, 5, 0, TRY, 4, 0, TRY, 3, 0, TRY, 2, 0, TRY, 1, 0, NEED, 8, 50);
@@ -356,7 +348,7 @@ public final class LedgerPromisesTest {
     }
 
     private static void asks() {
-        LedgerTests x = withContracts(2);
+        LedgerTests x = Made.contracts(2);
         x.account(0, 5);
         x.account(8, 5);
         Due.steps(x, 0, 0, ASK, 1, 0, ADD, 0, 100);
@@ -385,14 +377,14 @@ public final class LedgerPromisesTest {
     }
 
     private static void asksTooDeep() {
-        LedgerTests x = withContracts(1);
+        LedgerTests x = Made.contracts(1);
         x.bind(0, 0, 0);
         Due.steps(x, 0, 0, EVENT, 0, 0, ADD, 0, 1, UNLESS, 1, 5, ASK, 0, 0);
         Due.is("four CALLS", x.call(0, 0, 0, 5, 0), -15);
         Due.is("cause 4", x.told(2), 4);
         Due.is("steps", x.told(3), 16);
         Due.is("in all", x.count(3), 20);
-        LedgerTests y = withContracts(4);
+        LedgerTests y = Made.contracts(4);
         for (int c = 0; c < 4; c++) {
             y.bind(c, c, 0);
         }
@@ -415,7 +407,7 @@ public final class LedgerPromisesTest {
 
     /** As many TRIES and CALLS as can be at work at once. */
     private static void triesInEachCall() {
-        LedgerTests x = withContracts(2);
+        LedgerTests x = Made.contracts(2);
         Due.steps(x, 0, 0, TRY, 7, 0, TRY, 7, 0, TRY, 7, 0, TRY, 7, 0, TRY, 7, 0, TRY, 7, 0, TRY, 7, 0, ASK, 0, 0);
         x.bind(0, 0, 0);
         Due.is("too deep is held at once", x.call(0, 0, 0, 9, 0), 1);
@@ -435,7 +427,7 @@ public final class LedgerPromisesTest {
     }
 
     private static void hundredSteps() {
-        LedgerTests x = withContracts(2);
+        LedgerTests x = Made.contracts(2);
         x.bind(0, 0, 1);
         x.bind(1, 1, 0);
         for (int i = 0; i < 8; i++) {
@@ -454,7 +446,7 @@ public final class LedgerPromisesTest {
         Due.is("steps", x.told(3), 100);
         Due.is("events as ahead", x.count(1), 8);
         Due.is("the next CALL begins anew", x.call(0, 0, 1, 0, 0), 1);
-        LedgerTests y = withContracts(1);
+        LedgerTests y = Made.contracts(1);
         y.bind(0, 0, 1);
         for (int i = 0; i < 7; i++) {
             Due.steps(y, 0, 0, ASK, 0, 0);
@@ -469,33 +461,8 @@ public final class LedgerPromisesTest {
         Due.is("no ASK makes it 5", y.told(2), 7);
     }
 
-    /** CALLS of TESTS use up all that there is. */
-    private static LedgerTests nearlySpent(int left) {
-        LedgerTests x = withContracts(3);
-        x.bind(0, 0, 1);
-        for (int i = 0; i < 8; i++) {
-            Due.steps(x, 0, 0, ASK, 0, 0);
-            Due.steps(x, 0, 1, ADD, 0, 1);
-        }
-        for (int i = 0; i < 16; i++) {
-            Due.line(x, 0, "call", 0, 0, 0);
-        }
-        int each = 1 + 8 + 8 * 9;
-        for (int i = 0; i < 20000 / (16 * each); i++) {
-            Due.is("run", x.run(0), -1);
-        }
-        while (x.count(3) + left + each < 20000) {
-            Due.is("a CALL of many STEPS", x.call(0, 0, 0, 0, 0), 1);
-        }
-        while (x.count(3) + left < 20000) {
-            Due.is("a CALL of nothing", x.call(0, 2, 2, 0, 0), 1);
-        }
-        Due.is("nearly spent", x.count(3), 20000 - left);
-        return x;
-    }
-
     private static void twentyThousand() {
-        LedgerTests x = nearlySpent(3);
+        LedgerTests x = Made.nearlySpent(3);
         x.account(0, 5);
         Due.steps(x, 1, 0, SET, 0, 0, TRY, 2, 0, EVENT, 0, 0, SET, 1, 0);
         Due.is("spent at a STEP", x.call(0, 1, 0, 4, 5), -17);
@@ -511,16 +478,16 @@ public final class LedgerPromisesTest {
     }
 
     private static void twentyThousandByAsk() {
-        LedgerTests x = nearlySpent(3);
+        LedgerTests x = Made.nearlySpent(3);
         Due.steps(x, 1, 0, TRY, 1, 0, ASK, 1, 0);
         x.bind(1, 1, 1);
         Due.is("spent at an ASK", x.call(0, 1, 0, 4, 0), -17);
         Due.is("no cause", x.told(2), 7);
-        LedgerTests y = nearlySpent(3);
+        LedgerTests y = Made.nearlySpent(3);
         Due.steps(y, 1, 0, TRY, 1, 0, ASK, 1, 0);
         Due.is("none ahead of spent", y.call(0, 1, 0, 4, 0), 1);
         Due.is("none ahead of spent", y.told(0), 5);
-        LedgerTests z = nearlySpent(8);
+        LedgerTests z = Made.nearlySpent(8);
         Due.steps(z, 1, 0, ASK, 1, 0);
         z.bind(1, 1, 0);
         Due.is("too deep ahead of spent", z.call(0, 1, 0, 4, 0), -15);
@@ -529,7 +496,7 @@ public final class LedgerPromisesTest {
     }
 
     private static void events() {
-        LedgerTests x = withContracts(1);
+        LedgerTests x = Made.contracts(1);
         for (int i = 0; i < 4; i++) {
             Due.steps(x, 0, 0, EVENT, 0, 0, ADD, 0, 1);
         }
@@ -546,7 +513,7 @@ public final class LedgerPromisesTest {
     }
 
     private static void toldOfTheLatest() {
-        LedgerTests x = withContracts(1);
+        LedgerTests x = Made.contracts(1);
         Due.steps(x, 0, 0, NEED, 1, 5);
         Due.line(x, 0, "call", 0, 0, 8);
         x.call(0, 0, 0, 2, 0);
@@ -560,7 +527,7 @@ public final class LedgerPromisesTest {
     }
 
     private static void coverage() {
-        LedgerTests x = withContracts(1);
+        LedgerTests x = Made.contracts(1);
         Due.steps(x, 0, 1, ADD, 0, 0, UNLESS, 1, 5, NEED, 0, 7, TRY, 1, 0, EVENT, 0, 0);
         Due.is("covered", x.covered(0, 1), 0);
         x.call(0, 0, 1, 6, 0);
@@ -571,7 +538,7 @@ public final class LedgerPromisesTest {
         Due.is("none such", x.covered(0, 3), -1);
         Due.is("none such", x.covered(1, 0), -1);
         Due.is("none such", x.covered(0, -1), -1);
-        LedgerTests y = withContracts(1);
+        LedgerTests y = Made.contracts(1);
         Due.steps(y, 0, 0, UNLESS, 3, 5);
         y.call(0, 0, 0, 4, 0);
         Due.is("passed over the end", y.covered(0, 0), 1 | 1 << 8);

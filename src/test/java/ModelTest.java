@@ -4,7 +4,8 @@ import java.util.Random;
 
 /** Random runs of at most 512 calls: each answer must be the one that the Model gives. */
 public final class ModelTest {
-    private static final int RUNS = 6000, CALLS = 512;
+    /** LOOKS: so many calls are kept for looking at all, and for the last LINES ahead of that. */
+    private static final int RUNS = 6000, CALLS = 512, LOOKS = 70;
     private static final String[] WORDS = {
         "by", "call", "gives", "throws", "steps", "coins", "cell", "event", "sum", "time", "fork",
         "back", "face", "fails",
@@ -48,7 +49,7 @@ public final class ModelTest {
             return;
         }
         contracts();
-        while (same && told.size() < CALLS - 60) {
+        while (same && told.size() < CALLS - LOOKS) {
             tameCall();
         }
         lookAtAll();
